@@ -1541,7 +1541,7 @@ public final class TurfBog {
             return least;
         }
 
-        /** For each set of told cells and each cell: the fewest drains by which the set hangs together with the cell. */
+        /** For each set of told cells, and each cell: the fewest drains by which both hang together. */
         int fewestDrains(int drains, int[] told, int n) {
             if (n < 1 || n > MOST_TOLD) {
                 return 0;
