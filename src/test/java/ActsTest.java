@@ -93,6 +93,7 @@ public final class ActsTest {
         Check.due("lacks", x.hearth(0, 4), 9);
         Check.due("share of nothing", x.hearth(0, 6), 0);
         Check.due("share of all", x.hearth(1, 6), 100);
+        Check.due("share of one in all", Check.bog("hearth hands 1 need 9 store 1").hearth(0, 6), 100);
         Check.due("share without stores", Check.bog("hearth hands 1 need 9").hearth(0, 6), 0);
         Check.refuses("hearth(-1, 0)", NO_SUCH, () -> x.hearth(-1, 0));
         Check.refuses("hearth(2, 9)", NO_SUCH, () -> x.hearth(2, 9));
@@ -203,6 +204,10 @@ public final class ActsTest {
         Check.refuses("foot(25)", NO_SUCH, () -> x.foot(25));
         Check.refuses("foot(-1)", NO_SUCH, () -> x.foot(-1));
         Check.due("acts", x.count(12), 3);
+        Check.put(x, "turves 2 1 dry 30");
+        x.bog();
+        Check.due("told anew, they are spread", x.cell(2, 5), 0);
+        Check.due("one alone", x.foot(2), 1);
     }
 
     private static void carts() {
@@ -232,6 +237,9 @@ public final class ActsTest {
         x.foot(5);
         Check.due("not for nine", x.cart(1, 5), 999);
         Check.due("stage of none", x.cell(5, 5), 0);
+        Check.put(x, "turves 5 1 dry 60;water 0 0;water 5 0");
+        x.bog();
+        Check.due("one alone", x.cart(0, 5), 12);
     }
 
     private static void drains() {

@@ -15,6 +15,7 @@ public final class KeepsTest {
         spans();
         led();
         logs();
+        logsUndone();
         seeds();
         undone();
         manyActs();
@@ -105,27 +106,43 @@ public final class KeepsTest {
         Check.refuses("-1 days", BAD, () -> x.trial(-1, false));
     }
 
+    /** With these showers the sixth seed, but not the seventh or none, has the most or the least. */
     private static void spans() {
+        for (int shower : new int[] {5, 10, 11, 43}) {
+            for (int n = 0; n <= 60; n++) {
+                spanOf(shower, n);
+            }
+        }
         TurfBog x = worked();
         x.seed(77);
-        for (int n = 0; n <= 60; n += 4) {
-            int least = 999;
-            int most = -1;
-            for (int seed = 1; seed <= 6; seed++) {
-                TurfBog y = worked();
-                y.seed(seed);
-                if (n > 0) {
-                    y.days(n);
-                }
-                least = Math.min(least, y.count(7));
-                most = Math.max(most, y.count(7));
-            }
-            Check.due("least in " + n, x.span(n, false), least);
-            Check.due("most in " + n, x.span(n, true), most);
-        }
+        x.span(60, true);
         Check.due("nothing stays", x.seed(77), 77);
+        Check.due("nor of peat", x.count(7), 14);
         Check.refuses("61 days", BAD, () -> x.span(61, true));
         Check.refuses("-1 days", BAD, () -> x.span(-1, false));
+    }
+
+    private static TurfBog dryBog(int shower, int seed) {
+        TurfBog x = Check.bog("peat 0 9 9 9 9 9 9 9 9;water 0 0 0 0 0 0 0 0 0;hearth hands 1 need 9;right 0 0 1 2 3 4 5 6 7;"
+                + "shower " + shower);
+        x.seed(seed);
+        return x;
+    }
+
+    private static void spanOf(int shower, int n) {
+        int least = 999;
+        int most = -1;
+        for (int seed = 1; seed <= 6; seed++) {
+            TurfBog y = dryBog(shower, seed);
+            if (n > 0) {
+                y.days(n);
+            }
+            least = Math.min(least, y.count(7));
+            most = Math.max(most, y.count(7));
+        }
+        TurfBog x = dryBog(shower, 99);
+        Check.due("least in " + n + ", shower " + shower, x.span(n, false), least);
+        Check.due("most in " + n + ", shower " + shower, x.span(n, true), most);
     }
 
     private static void led() {
@@ -164,6 +181,27 @@ public final class KeepsTest {
         Check.due("none is later than the latest", x.log(-1, 0), -1);
         Check.refuses("another what", NO_WHAT, () -> x.log(0, 5));
         Check.refuses("another what, without a row", NO_WHAT, () -> x.log(99, -1));
+    }
+
+    private static void logsUndone() {
+        TurfBog x = Check.bog("peat 0 9 9 9 9 9 9 9 9;water 0 0 0 0 0 0 0 0 0;hearth hands 1 need 9;hearth hands 2 need 0;"
+                + "right 0 0 1 2 3 4 5 6 7;right 1 8");
+        x.image();
+        x.days(60);
+        Check.due("the oldest", x.log(59, 0), 0);
+        x.days(5);
+        Check.due("the oldest then", x.log(59, 0), 5);
+        x.undo();
+        Check.due("the oldest again", x.log(59, 0), 0);
+        Check.due("the latest again", x.log(0, 0), 59);
+        x.back();
+        x.cut(0, 3);
+        x.image();
+        x.undo();
+        x.cut(0, 5);
+        Check.due("a row", x.log(0, 2), 5);
+        x.back();
+        Check.due("the row of the image", x.log(0, 2), 3);
     }
 
     private static void seeds() {
@@ -230,6 +268,7 @@ public final class KeepsTest {
         }
         for (int i = 0; i < 12; i++) {
             Check.due("undo " + i, x.undo(), true);
+            Check.due("drains then", x.count(10), 14 - i);
         }
         Check.due("twelve are remembered", x.undo(), false);
         Check.due("three stay", x.count(10), 3);

@@ -63,7 +63,9 @@ public final class RandomRunsTest {
             same = switch (pick(40)) {
                 case 0 -> tell("bog", spoilt(bogText(14)));
                 case 1 -> tell("law", pick(2) == 0 ? lawText() : spoilt(lawText()));
-                case 2, 3 -> tell(List.of("net", "trunks", "likely", "probe", "falls", "ask").get(pick(6)), rows());
+                case 2 -> tell(List.of("net", "trunks", "likely", "probe", "falls", "ask").get(pick(6)), rows());
+                case 3 -> pick(2) == 0 ? tell(List.of("trunks", "likely", "probe").get(pick(3)), trunkRows())
+                        : tell(List.of("falls", "ask").get(pick(2)), fallRows());
                 case 4 -> call(methods.get(pick(methods.size())));
                 case 5, 6, 7, 8 -> callNamed(List.of("cut", "cart", "foot", "days", "undo").get(pick(5)));
                 case 9, 10, 11, 12 -> callNamed(List.of("cell", "hearth", "log", "count", "led").get(pick(5)));
@@ -188,7 +190,7 @@ public final class RandomRunsTest {
             case 6, 7 -> "turves " + pick(25) + " " + (1 + pick(99)) + (pick(2) == 0 ? " dry " + pick(100) : "");
             case 8, 9 -> "hearth hands " + (1 + pick(9)) + " need " + pick(100)
                     + (pick(2) == 0 ? " store " + pick(pick(2) == 0 ? 1000 : 40) : "");
-            case 10 -> "right " + pick(3) + cells(8);
+            case 10 -> "right " + pick(pick(3) == 0 ? 6 : 3) + cells(6);
             case 11 -> pick(2) == 0 ? "sun " + pick(10) : "rain";
             case 12 -> "shower " + pick(101);
             default -> "day " + pick(1000);
@@ -210,6 +212,9 @@ public final class RandomRunsTest {
                     .append(pick(90));
         }
         b.append(";hearth hands 3 need 40;right 0").append(cells(8));
+        for (int i = pick(4); i > 0; i--) {
+            b.append(";right ").append(pick(2)).append(cells(4));
+        }
         for (int i = pick(5); i > 0; i--) {
             b.append(";turves ").append(pick(25)).append(' ').append(1 + pick(99)).append(" dry ").append(20 + pick(80));
         }
@@ -265,6 +270,34 @@ public final class RandomRunsTest {
             text[pick(text.length)] = (byte) (pick(3) == 0 ? pick(256) : " ;(0)+<9anor".charAt(pick(12)));
         }
         return pick(5) == 0 ? java.util.Arrays.copyOf(text, pick(text.length + 1)) : text;
+    }
+
+    /** Rows of some trunk, of which now and then one is wrong. */
+    private byte[] trunkRows() {
+        int begin = pick(25);
+        int step = List.of(1, 5, 6, 4).get(pick(4));
+        int length = 2 + pick(4);
+        byte[] told = new byte[2 * pick(12)];
+        for (int i = 0; i < told.length; i += 2) {
+            int cell = pick(3) == 0 ? pick(25) : (begin + step * pick(length + 1)) % 25;
+            boolean hit = cell >= begin && (cell - begin) % step == 0 && cell < begin + step * length;
+            told[i] = (byte) cell;
+            told[i + 1] = (byte) (hit == (pick(15) > 0) ? 1 : 0);
+        }
+        return told;
+    }
+
+    private byte[] fallRows() {
+        int first = pick(10);
+        int pace = 1 + pick(20);
+        int least = pick(first + 1);
+        byte[] told = new byte[2 * pick(6)];
+        for (int i = 0; i < told.length; i += 2) {
+            int day = pick(pick(2) == 0 ? 100 : 20);
+            told[i] = (byte) day;
+            told[i + 1] = (byte) Math.max(first - day / pace, least);
+        }
+        return told;
     }
 
     private byte[] rows() {

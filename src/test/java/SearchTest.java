@@ -96,6 +96,10 @@ public final class SearchTest {
         Check.due("probe the middle", told(x, 'p'), 12);
         Check.due("one fits alone", told(x, 't', 23, 1, 24, 1, 23, 1, 24, 1, 22, 0, 22, 0), 1);
         Check.due("no need to probe", told(x, 'p', 23, 1, 24, 1, 23, 1, 24, 1, 22, 0, 22, 0), -1);
+        // Trunks 0 (0 and 1) and 100 (0 to 2) alone.
+        int[] two = {0, 1, 0, 1, 1, 1, 1, 1, 3, 0, 3, 0};
+        Check.due("two fit", told(x, 't', two), 2);
+        Check.due("probe where one of them is alone", told(x, 'p', two), 2);
         for (char what : new char[] {'t', 'l', 'p'}) {
             Check.refuses("half a row", BAD, () -> told(x, what, 3));
             Check.refuses("no cell", BAD, () -> told(x, what, 25, 0));
@@ -145,6 +149,13 @@ public final class SearchTest {
         Check.due("the first such way", z.placed(0), 5);
         Check.due("and the rest of it", z.placed(1), 6);
         Check.due("without hearths", new TurfBog().placed(-1), 0);
+        TurfBog six = Check.bog("peat 0 1 2 3 4 5 6;water 0 0 0 0 0 0 0;" + "hearth hands 1 need 0;".repeat(6) + "right 0 5 0;"
+                + "right 1 5 1;right 2 5 2;right 3 5 3;right 4 5 4;right 5 4");
+        Check.due("six", six.placed(-1), 21);
+        int[] where = {0, 1, 2, 3, 5, 4};
+        for (int h = 0; h < where.length; h++) {
+            Check.due("where " + h + " is", six.placed(h), where[h]);
+        }
         Check.refuses("placed(2)", NO_SUCH, () -> z.placed(2));
         Check.refuses("placed(-2)", NO_SUCH, () -> z.placed(-2));
         Check.refuses("placed(0) without hearths", NO_SUCH, () -> new TurfBog().placed(0));
@@ -211,6 +222,12 @@ public final class SearchTest {
         int[] with = {1, 0, -1, 4, 3};
         for (int h = 0; h < with.length; h++) {
             Check.due("with whom " + h + " is", x.pairs(h), with[h]);
+        }
+        TurfBog six = Check.bog(hearth.repeat(6) + "right 0 1 2;right 5 1 2 3;right 4 3;right 1 8 9 7;right 3 7 8;right 2 9");
+        Check.due("six", six.pairs(-1), 4);
+        int[] others = {5, 3, -1, 1, -1, 0};
+        for (int h = 0; h < others.length; h++) {
+            Check.due("with whom " + h + " of six is", six.pairs(h), others[h]);
         }
         TurfBog z = Check.bog(hearth.repeat(3) + "right 0 7;right 1 7;right 2 7");
         Check.due("none is the least", z.pairs(0), -1);

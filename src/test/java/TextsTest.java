@@ -113,14 +113,14 @@ public final class TextsTest {
 
     private static void bogFaults() {
         TurfBog x = Check.bog("hearth hands 1 need 1;day 7");
-        String[] texts = {"|;", "|Peat 0 1", "|5", "|peats 0 1", "|drained", "peat|", "peat |x", "peat |25 1", "peat 0|",
+        String[] texts = {"|;", "|Peat 0 1", "|5", "|peats 0 1", "|drained", "|rainz", "rain|`", "rain|{", "peat|", "peat |x", "peat |25 1", "peat 0|",
             "peat 0 |;", "peat 0 |10", "peat 0 |0000", "peat 23 1 2 |3", "peat 0 1|,", "peat 0 1|x", "water |0001 5",
-            "drain|", "drain |25", "drain 1 |99", "drain 0 0 0 0 0 0 0 0 |0", "turves 0|", "turves 0 |0", "turves 0 |100",
+            "drain|", "drain |25", "drain 1 |99", "drain 0 0 0 0 0 0 0 0 |0", "turves |25 1", "turves 0|", "turves 0 |0", "turves 0 |100",
             "turves 0 1 |2", "turves 0 1 dry|", "turves 0 1 dry |100", "turves 0 1 |wet 5", "hearth |5", "hearth hands |0",
             "hearth hands |10", "hearth hands 9|", "hearth hands 9 need |100", "hearth hands 9 need 1 store |1000",
             "hearth hands 9 need 1 store|", "hearth hands 9 need 1 |hands 2", "right |1 0", "right 0|", "right 0 |25",
             "right 0 1 2 3 4 5 6 7 8 |9", "sun |10", "sun|", "shower |101", "day |1000", "rain |rain", "rain|.",
-            "day 1;|", "day 1; |", "day 1;|;", "day 1 |day 2", "\t|".replace("\t|", "|\t"), "day 1;day|"};
+            "day 1;|", "day 1; |", "day 1;|;", "day 1 |day 2", "|\t", "day 1;day|"};
         for (String text : texts) {
             bogWrong(x, text);
         }
@@ -168,6 +168,10 @@ public final class TextsTest {
         gain(x, "sink 9", 7, 2);
         gain(x, "dry 1 if laid;dry 2 if not laid", 7, 3);
         gain(x, "dry 1 if laid;dry 2 if not laid", 8, 4);
+        x.sky(2, false);
+        Check.put(x, "turves 9 1");
+        x.bog();
+        gain(x, "dry 1 if laid", 9, 3);
         gain(x, "dry 1 if drained", 24, 3);
         gain(x, "dry 1 if rain", 7, 2);
         gain(x, "dry 1 if cell>6 and cell<8;dry 2 if x+0>1 and x<3;dry 4 if y>0 and y<2", 7, 9);
@@ -207,7 +211,7 @@ public final class TextsTest {
             "dry 1 if rain and|", "dry 1 if rain or |or", "dry 1 if (rain|", "dry 1 if (rain|;", "dry 1 if rain|)",
             "dry 1 if (|)", "dry 1 if not|", "dry 1 if not |and", "dry 1 if laid |< 5", "dry 1 if (sun |) < 5",
             "dry 1 if ((((((|(rain)))))))", "dry 1 if (not(not(not |(rain))))", "dry 1 if (not(not(not |not rain)))",
-            "dry 1 if ((((((|not rain))))))", "dry 1 if |raining", "dry 1 if |Rain", "dry 1;|", "dry 1|:", "dry 1|-1",
+            "dry 1 if ((((((|not rain))))))", "dry 1 if |raining", "dry 1 if |rainz", "dry 1 if |Rain", "dry 1;|", "dry 1|:", "dry 1|-1",
             "dry 1 if sun |= 5", "dry 1 if |-1 < 5"};
         for (String text : texts) {
             lawWrong(x, text);
