@@ -169,6 +169,7 @@ public final class ActEdgesTest {
         Check.says("the least SINKS together of all CELLS on it, the first one and the last one, too "
                 + "(of a CELL of THE ROAD that one alone)");
         TurfBog x = Check.bog("water 0 9 0 9 9 9 9 0 9 9 9;water 20 9 9 9 9 9");
+        Check.says("CELLS 0 to 4 are THE ROAD");
         Check.due("way of the road", x.cell(0, 12), 9);
         Check.due("steps of the road", x.cell(0, 13), 0);
         Check.due("the last of the road", x.cell(4, 12), 9);
@@ -256,6 +257,10 @@ public final class ActEdgesTest {
         Check.due("one cut each day", y.days(60), 60);
         Check.due("till there is none", y.days(60), 12);
         Check.due("then no more", y.days(60), 0);
+        TurfBog six = Check.bog("peat 0 9;water 0 0;" + "hearth hands 1 need 1;".repeat(6) + "right 0 0;right 1 0;right 2 0;right 3 0",
+                "right 4 0;right 5 0");
+        Check.due("six on one day", six.days(1), 6);
+        Check.due("the last is the latest", six.log(0, 1), 5);
     }
 
     private static void draws() {
@@ -480,7 +485,7 @@ public final class ActEdgesTest {
     }
 
     private static void cartWay() {
-        Check.says("or WAY is above 4 times its HANDS.");
+        Check.says("IllegalStateException: there are none, DRY is below 60, it has no RIGHT there, or WAY is above 4 times its HANDS.");
         TurfBog x = Check.bog("water 0 4 5 9 9 9 0 0 9 9 9;turves 5 3 dry 60;turves 6 3 dry 60;turves 0 1 dry 60;"
                 + "hearth hands 1 need 0;hearth hands 2 need 0;right 0 0 5 6;right 1 5 6");
         Check.due("way 4", x.cell(5, 12), 4);

@@ -22,6 +22,7 @@ public final class KeepEdgesTest {
         ledOfSixty();
         log();
         logOfSixty();
+        logUndone();
         logKinds();
         seed();
         undoTwelve();
@@ -80,6 +81,7 @@ public final class KeepEdgesTest {
         TurfBog x = Check.bog("peat 0" + " 1".repeat(25) + ";hearth hands 1 need 1;hearth hands 1 need 1;right 0 0 24;right 1 0 7");
         Check.due("all but three", x.waste(), (1 << 25) - 1 & ~Check.bits(0, 7, 24));
         Check.due("without hearths all of it", Check.bog("peat 24 1").waste(), 1 << 24);
+        Check.due("beside six", Check.bog("peat 0 1 1;" + "hearth hands 1 need 1;".repeat(6) + "right 5 1").waste(), 1);
     }
 
     private static void staged() {
@@ -171,6 +173,16 @@ public final class KeepEdgesTest {
         Check.due("most in 60", x.span(60, true), 12);
         Check.due("nothing stays", Check.picture(x), before);
         Check.due("of no peat", new TurfBog().span(60, true), 0);
+        // By rain of 59 in a hundred: 69, and 68 by all other seeds; by 13 in a hundred 50 51 63 59 52 52.
+        TurfBog rain = cutOften();
+        Check.put(rain, "shower 59");
+        rain.bog();
+        Check.due("most by the first seed", rain.span(4, true), 69);
+        Check.due("least by others", rain.span(4, false), 68);
+        Check.put(rain, "shower 13");
+        rain.bog();
+        Check.due("least by the first seed", rain.span(22, false), 50);
+        Check.due("most by the third", rain.span(22, true), 63);
         for (int n : NO_DAYS) {
             Check.refuses("span(" + n + ", false)", BAD, () -> x.span(n, false));
             Check.refuses("span(" + n + ", true)", BAD, () -> x.span(n, true));
@@ -249,6 +261,27 @@ public final class KeepEdgesTest {
         Check.due("the oldest of these", x.log(59, 0), 12);
         for (int ago = 0; ago < 60; ago++) {
             Check.due("in its order, " + ago, x.log(ago, 0), 71 - ago);
+        }
+    }
+
+    private static void logUndone() {
+        Check.says("all is as ahead of it");
+        TurfBog x = cutOften();
+        Check.put(x, "peat 8 9 9 9 9 9 9 9 9;water 8 0 0 0 0 0 0 0 0;right 0 8 9 10 11 12 13 14 15");
+        x.bog();
+        x.days(60);
+        x.image();
+        x.days(60);
+        Check.due("the latest of 120", x.log(0, 0), 119);
+        Check.due("the oldest of these", x.log(59, 0), 60);
+        x.undo();
+        for (int ago = 0; ago < 60; ago++) {
+            Check.due("undone, " + ago, x.log(ago, 0), 59 - ago);
+        }
+        x.days(60);
+        x.back();
+        for (int ago = 0; ago < 60; ago++) {
+            Check.due("gone back, " + ago, x.log(ago, 0), 59 - ago);
         }
     }
 

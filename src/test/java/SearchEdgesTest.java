@@ -208,6 +208,12 @@ public final class SearchEdgesTest {
         int[] three = {12, 1, 12, 1, 10, 0, 10, 0, 14, 0, 14, 0, 7, 0, 7, 0, 17, 0, 17, 0, 6, 0, 6, 0, 18, 0, 18, 0, 8, 0, 8, 0, 16, 0, 16, 0};
         Check.due("three fit", told(x, 't', three), 3);
         Check.due("11 and 13 part them alike", told(x, 'p', three), 11);
+        // Of 1, not of 3 and what is below: {0, 1}, {1, 2}, {0, 1, 2}.
+        int[] first = {1, 1, 1, 1, 3, 0, 3, 0, 5, 0, 5, 0, 6, 0, 6, 0, 7, 0, 7, 0};
+        Check.due("three others fit", told(x, 't', first), 3);
+        Check.due("0 and 2 part them alike", told(x, 'p', first), 0);
+        Check.due("those with one wrong row fit, too", told(x, 'p', 12, 1), 12);
+        Check.due("also with two that gainsay one another", told(x, 'p', 0, 1, 0, 0), 12);
         int[] two = {0, 1, 0, 1, 1, 1, 1, 1, 3, 0, 3, 0};
         Check.due("two fit", told(x, 't', two), 2);
         Check.due("2 parts them", told(x, 'p', two), 2);
@@ -252,6 +258,8 @@ public final class SearchEdgesTest {
         Check.due("the first of these", told(x, 'f', 0, 9, 19, 9, 20, 8), 1990);
         Check.due("not in 21: it is the least", told(x, 'c', 0, 9, 20, 9), 20);
         Check.due("the first of these", told(x, 'f', 0, 9, 20, 9), 1809);
+        Check.due("not from 10", told(x, 'f', 1, 9, 2, 8, 3, 7), -1);
+        Check.due("none of these", told(x, 'c', 1, 9, 2, 8, 3, 7), 0);
         Check.due("to 0", told(x, 'f', 0, 9, 9, 0), 1800);
         Check.due("to 0 alone", told(x, 'c', 0, 9, 9, 0), 1);
         Check.due("to 8", told(x, 'c', 0, 9, 1, 8, 99, 8), 1);
@@ -273,7 +281,9 @@ public final class SearchEdgesTest {
         TurfBog x = new TurfBog();
         Check.due("none fit", told(x, 'a', 5, 5, 5, 6), -1);
         Check.due("one fits", told(x, 'a', 0, 9, 9, 0), -1);
+        Check.due("none told: all fit, 200 by each water of day 0", told(x, 'a'), 0);
         Check.due("all that fit are alike", told(x, 'a', 0, 0), 0);
+        Check.due("late", told(x, 'a', 0, 9), 90);
         Check.due("one in 20 days is parted last", told(x, 'a', 0, 1), 20);
         // From 9 by 1 a day, the least 0 to 8: on day 8 two are alike still.
         Check.due("the first day that parts all", told(x, 'a', 0, 9, 1, 8), 9);
@@ -311,11 +321,11 @@ public final class SearchEdgesTest {
         for (int hearth = 0; hearth < due.length; hearth++) {
             Check.due("where " + hearth + " is", like.placed(hearth), due[hearth]);
         }
-        TurfBog six = Check.bog(HEARTH.repeat(6) + "right 0 1 2 3 4 5 6;right 1 1 2 3 4 5 6;right 2 1 2 3 4 5 6;right 3 1 2 3 4 5 6",
-                "right 4 1 2 3 4 5 6;right 5 1 2 3 4 5 6;peat 1 9 9 9 9 9 9;water 1 0 0 0 0 0 0");
+        TurfBog six = Check.bog(HEARTH.repeat(6) + "right 0 0 1 2 3 4 5;right 1 0 1 2 3 4 5;right 2 0 1 2 3 4 5;right 3 0 1 2 3 4 5",
+                "right 4 0 1 2 3 4 5;right 5 0 1 2 3 4 5;peat 0 9 9 9 9 9 9;water 0 0 0 0 0 0 0");
         Check.due("six in six", six.placed(-1), 54);
         for (int hearth = 0; hearth < 6; hearth++) {
-            Check.due("where " + hearth + " of six is", six.placed(hearth), hearth + 1);
+            Check.due("where " + hearth + " of six is", six.placed(hearth), hearth);
         }
     }
 
@@ -324,8 +334,8 @@ public final class SearchEdgesTest {
                 + "how many (0 without HEARTHS).");
         Check.due("without hearths", new TurfBog().even(), 0);
         int[][] stores = {{999}, {0, 0}, {5, 4}, {5, 3}, {5, 2}, {999, 0}, {999, 999, 999, 999, 999, 0}, {2, 0, 0}, {0, 1, 2}, {3, 3, 0, 0},
-            {7, 7, 7, 7, 7, 6}, {5, 0, 0, 0, 0, 0}, {7, 0, 0, 0, 0, 0}, {3, 3, 2, 2, 0}};
-        int[] due = {0, 0, 0, 1, 1, 499, 832, 1, 1, 2, 0, 4, 5, 2};
+            {7, 7, 7, 7, 7, 6}, {5, 0, 0, 0, 0, 0}, {7, 0, 0, 0, 0, 0}, {3, 3, 2, 2, 0}, {0, 3}, {0, 0, 5}, {1, 0, 0, 9}};
+        int[] due = {0, 0, 0, 1, 1, 499, 832, 1, 1, 2, 0, 4, 5, 2, 1, 3, 6};
         for (int i = 0; i < stores.length; i++) {
             StringBuilder text = new StringBuilder();
             for (int store : stores[i]) {
@@ -354,6 +364,9 @@ public final class SearchEdgesTest {
         Check.due("of the sign bit", x.last(Integer.MIN_VALUE), false);
         Check.due("of all", x.last(-1), x.last((1 << 25) - 1));
         Check.due("the last cell", Check.bog("peat 24 1").last(1 << 24), true);
+        Check.due("the first cell", Check.bog("peat 0 1").last(1), true);
+        Check.says("Sets are bits; of none they count for nothing.");
+        Check.due("a bit of none beside one of some", Check.bog("peat 0 4 1").last(1 << 25 | 1), false);
     }
 
     private static void spit() {
@@ -364,6 +377,7 @@ public final class SearchEdgesTest {
             Check.due("of depth " + depth, x.spit(1 << depth), due[depth] < 0 ? -1 : 4 * depth + due[depth]);
         }
         Check.due("in the last cell", x.spit(1 << 24), 99);
+        Check.due("in the first cell", Check.bog("peat 0 3").spit(1), 3);
         Check.due("of others alone", x.spit(-1 << 25), -1);
         Check.due("of others, too", x.spit(-1 << 25 | 1 << 3), 15);
         Check.due("of none", x.spit(0), -1);
@@ -408,7 +422,8 @@ public final class SearchEdgesTest {
         Check.due("of three, and one alone", Check.bog("peat 0 1 1 1;peat 24 1").bridges(), Check.bits(1));
         Check.due("of all", Check.bog("peat 0" + " 1".repeat(25)).bridges(), 0);
         Check.due("of a cross", Check.bog("peat 7 1;peat 11 1 1 1;peat 17 1").bridges(), Check.bits(12));
-        Check.due("of a corner", Check.bog("peat 23 1 1;peat 19 1").bridges(), Check.bits(24));
+        Check.due("of the last corner", Check.bog("peat 23 1 1;peat 19 1").bridges(), Check.bits(24));
+        Check.due("of the first corner", Check.bog("peat 0 1 1;peat 5 1").bridges(), Check.bits(0));
     }
 
     private static void far() {
@@ -495,10 +510,21 @@ public final class SearchEdgesTest {
         Check.due("two of five", x.odds(5, 2), 4717);
         Check.due("rounded down to 0", Check.bog("shower 1").odds(3, 3), 0);
         Check.due("one ten thousandth", Check.bog("shower 1").odds(2, 2), 1);
-        Check.due("rounded down from all", Check.bog("shower 99").odds(5, 1), 9999);
-        for (int k = 0; k <= 5; k++) {
-            Check.due("never, " + k, new TurfBog().odds(5, k), k == 0 ? 10000 : 0);
-            Check.due("always, " + k, Check.bog("shower 100").odds(5, k), 10000);
+        int[] all = {0, 9900, 9999, 9999, 9999, 9999};
+        for (int n = 0; n <= 5; n++) {
+            Check.due("rounded down from all but all of " + n, Check.bog("shower 99").odds(n, 1), all[n]);
+        }
+        TurfBog never = new TurfBog();
+        TurfBog always = Check.bog("shower 100");
+        for (int n = 0; n <= 5; n++) {
+            for (int k = 0; k <= 5; k++) {
+                Check.due("never, " + k + " of " + n, never.odds(n, k), k == 0 ? 10000 : 0);
+                Check.due("always, " + k + " of " + n, always.odds(n, k), k <= n ? 10000 : 0);
+            }
+        }
+        int[] half = {0, 5000, 7500, 8750, 9375, 9687};
+        for (int n = 0; n <= 5; n++) {
+            Check.due("one of " + n + " by halves", Check.bog("shower 50").odds(n, 1), half[n]);
         }
         Check.says("ODDS. IllegalArgumentException: N or K are none.");
         for (int n : new int[] {-1, 6, Integer.MIN_VALUE, Integer.MAX_VALUE}) {

@@ -7,6 +7,8 @@ public final class TextEdgesTest {
         asItIsAtFirst();
         feeds();
         ends();
+        behindTheEnd();
+        fullTapes();
         usesUp();
         twelveTexts();
         lines();
@@ -152,6 +154,63 @@ public final class TextEdgesTest {
         Check.due("alone", x.count(6), 1);
     }
 
+    /** What was cut off by end() is on no text, whatever it was. */
+    private static void behindTheEnd() {
+        Check.says("The TAPE has its first n bytes alone");
+        String[] texts = {"peat 0 1| 2", "peat 0 1|2", "drain 1| 25", "day 1|0", "rain|;", "rain|s", "rain;rain|x", "rain |otter",
+            "hearth hands 1 need 1| store 1000", "turves 0 1| dry 100"};
+        for (String marked : texts) {
+            int n = marked.indexOf('|');
+            TurfBog x = new TurfBog();
+            Check.put(x, marked.replace("|", ""));
+            x.end(n);
+            Check.due("'" + marked + "' is a text", x.bog(), 1);
+        }
+        String[] laws = {"dry 1| if", "dry 1|;", "dry 1 if 1>0|0000", "dry 1 if sun>0|+", "dry 1 if rain| and", "dry 1 if rain|y"};
+        for (String marked : laws) {
+            TurfBog x = new TurfBog();
+            Check.put(x, marked.replace("|", ""));
+            x.end(marked.indexOf('|'));
+            Check.due("'" + marked + "' is a law", x.law(), 1);
+        }
+        TurfBog x = new TurfBog();
+        Check.put(x, "day 77");
+        x.end(3);
+        Check.refuses("day without a number", BAD, x::bog);
+        Check.due("more must come", x.fault(), 3);
+        Check.put(x, "dry 1 if sun>0");
+        x.end(12);
+        Check.refuses("sun without another one", BAD, x::law);
+        Check.due("more must come", x.fault(), 12);
+    }
+
+    /** Texts that end with the 400th byte, whatever stands last. */
+    private static void fullTapes() {
+        Check.says("NONE, and none come, if it would have more than 400.");
+        String[] texts = {"rain", "peat 0 1", "drain 1 2", "turves 0 1", "turves 0 1 dry 1", "hearth hands 1 need 1", "day 1", "rain "};
+        for (String text : texts) {
+            right(" ".repeat(400 - text.length()) + text);
+        }
+        String[] cut = {"peat", "drain", "hearth hands", "turves 0 1 dry", "day 1;", "day 1;  "};
+        for (String text : cut) {
+            wrong(" ".repeat(400 - text.length()) + text + "|");
+        }
+        String[] laws = {"dry 1", "dry 1 if rain", "dry 1 if (rain)", "dry 1 if sun > 1", "dry 1 if sun < x", "dry 1 if 1 < 1 + 1"};
+        for (String law : laws) {
+            rightLaw(" ".repeat(400 - law.length()) + law, 1);
+        }
+        String[] cutLaws = {"dry", "dry 1 if", "dry 1 if not", "dry 1 if (", "dry 1 if (rain", "dry 1 if sun", "dry 1 if sun+", "dry 1 if 1<",
+            "dry 1;"};
+        for (String law : cutLaws) {
+            wrongLaw(" ".repeat(400 - law.length()) + law + "|");
+        }
+        String ones = "dry 1 if 1" + "+1".repeat(193);
+        Check.due("194 ones are more than 193", rightLaw(ones + ">193", 1).cell(0, 9), 6);
+        Check.due("but not than 194", rightLaw(ones + ">194", 1).cell(0, 9), 5);
+        String ors = "dry 1 if rain" + " or rain".repeat(48);
+        Check.due("49 that do not hold", rightLaw(ors, 1).cell(0, 9), 5);
+    }
+
     private static void usesUp() {
         Check.says("Uses the TAPE up: a text of THE BOG: how many there are.");
         TurfBog x = new TurfBog();
@@ -176,6 +235,7 @@ public final class TextEdgesTest {
     }
 
     private static void twelveTexts() {
+        Check.says("THE BOG is told in texts (at most 12, one behind another)");
         Check.says("UnsupportedOperationException: there are 12.");
         TurfBog x = new TurfBog();
         for (int i = 1; i <= 11; i++) {
@@ -315,6 +375,7 @@ public final class TextEdgesTest {
                 Check.due("hearth(" + hearth + ", " + what + ")", x.hearth(hearth, what), due[hearth][what]);
             }
         }
+        Check.says("need 0 to 99; store, day 0 to 999.");
         wrong("hearth hands |0 need 1");
         wrong("hearth hands |10 need 1");
         wrong("hearth hands 1 need |100");
@@ -484,6 +545,10 @@ public final class TextEdgesTest {
         lawGain(x, "dry 1 if x + y > 7 ;dry 2 if x+y>8;dry 4 if x < 5;dry 8 if y < 4", 24, 5);
         lawGain(x, "dry 1 if depth + water + turves > 14;dry 2 if depth+water+turves > 15", 24, 1);
         lawGain(x, "dry 1 if 0 < cell + x + y", 0, 0);
+        lawGain(x, "dry 1 if sun < 1;dry 2 if sun > 0", 0, 1);
+        x.sky(9, false);
+        lawGain(x, "dry 1 if sun > 8;dry 2 if sun > 9", 0, 10);
+        x.sky(0, false);
         wrongLaw("dry 1 if sun + |");
         wrongLaw("dry 1 if sun |");
         wrongLaw("dry 1 if sun < |");
@@ -513,6 +578,8 @@ public final class TextEdgesTest {
         lawGain(x, law, 1, 2);
         x.sky(3, true);
         lawGain(x, law, 1, 7);
+        lawGain(x, "dry 1 if rain and laid;dry 2 if not rain;dry 4 if laid and rain;dry 8 if not not rain", 1, 10);
+        lawGain(x, "dry 1 if rain and drained;dry 2 if not drained;dry 4 if not laid", 24, 2);
         Check.says("C: ALL { or ALL }; ALL: ATOM { and ATOM }; ATOM: not ATOM");
         x.sky(0, false);
         lawGain(x, "dry 1 if laid or laid and rain;dry 2 if (laid or laid) and rain;dry 4 if rain and laid or laid", 1, 5);
