@@ -50,6 +50,7 @@ public final class KeepEdgesTest {
 
     private static void richest() {
         Check.says("RICHEST: the HEARTH of the most STORE (of several the least; none).");
+        Check.says("RICHEST; NONE.");
         Check.due("without hearths", new TurfBog().richest(), -1);
         Check.due("one without a store", Check.bog("hearth hands 1 need 1").richest(), 0);
         String like = "hearth hands 1 need 1 store 998;";
@@ -145,6 +146,7 @@ public final class KeepEdgesTest {
         TurfBog x = cutOften();
         x.seed(7);
         String before = Check.picture(x);
+        Check.says("TRIAL: how many TURVES (open false), or how many CELLS. IllegalArgumentException: N is none.");
         Check.due("turves in 0", x.trial(0, false), 5);
         Check.due("open in 0", x.trial(0, true), 8);
         Check.due("turves in 60", x.trial(60, false), 65);
@@ -167,6 +169,7 @@ public final class KeepEdgesTest {
         TurfBog x = cutOften();
         x.seed(7);
         String before = Check.picture(x);
+        Check.says("SPAN: the least (most false), or the greatest. IllegalArgumentException: N is none (0 to 60).");
         Check.due("least in 0", x.span(0, false), 72);
         Check.due("most in 0", x.span(0, true), 72);
         Check.due("least in 60", x.span(60, false), 12);

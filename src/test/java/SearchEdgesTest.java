@@ -113,6 +113,7 @@ public final class SearchEdgesTest {
         Check.says("FLOOD: the first N (0 to 60) IN which WATER is 9 in some CELL; none.");
         Check.due("now", Check.bog("water 0 9").flood(), 0);
         Check.due("now, in the last", Check.bog("water 24 9").flood(), 0);
+        Check.says("FLOOD; NONE.");
         Check.due("8 and no rain", Check.bog("water 24 8").flood(), -1);
         Check.due("8 and rain", Check.bog("water 24 8;rain").flood(), 1);
         Check.due("from none on", Check.bog("rain;water 0" + " 0".repeat(25)).flood(), 9);
@@ -133,6 +134,7 @@ public final class SearchEdgesTest {
         TurfBog x = new TurfBog();
         Check.due("40 bytes", told(x, 't', new int[40]), 148);
         Check.due("one row", told(x, 't', 24, 1), 160);
+        Check.says("Told are rows: a CELL and whether it was hit there (1) or not (0)");
         for (char call : new char[] {'t', 'l', 'p'}) {
             refused("one byte", call, 0);
             refused("three", call, 0, 0, 0);
@@ -194,6 +196,7 @@ public final class SearchEdgesTest {
         Check.due("one with none wrong ahead of lesser ones with one", told(x, 'l', 0, 1, 24, 1), 350);
         Check.due("the least of those with none wrong", told(x, 'l', 12, 1), 11);
         Check.due("the least of those with one wrong", told(x, 'l', 12, 1, 12, 0), 0);
+        Check.says("LIKELY (the TAPE likewise); NONE.");
         Check.due("none with two wrong each", told(x, 'l', 12, 1, 12, 0, 12, 1, 12, 0), -1);
         Check.due("the last of all", told(x, 'l', 4, 1, 8, 1, 12, 1, 16, 1, 20, 1, 4, 1, 20, 1), 379);
     }
@@ -202,6 +205,7 @@ public final class SearchEdgesTest {
         Check.says("so that the greater part is the least (of several the least; none with fewer than two)");
         TurfBog x = new TurfBog();
         Check.due("of all", told(x, 'p'), 12);
+        Check.says("PROBE (the TAPE likewise); NONE.");
         Check.due("none fit", told(x, 'p', 12, 1, 12, 0, 12, 1, 12, 0), -1);
         Check.due("one fits", told(x, 'p', 0, 1, 0, 1, 24, 1, 24, 1), -1);
         // Of 12, not of 10, 14 and what is above or below: {11, 12}, {12, 13}, {11, 12, 13}.
@@ -225,6 +229,7 @@ public final class SearchEdgesTest {
         Check.says("(of each two bytes: the day, WATER; at most 40 bytes)");
         TurfBog x = new TurfBog();
         Check.due("40 bytes", told(x, 'c', new int[40]), 200);
+        Check.says("FALLS: told are rows: a day (0 to 99) and the WATER then (0 to 9)");
         Check.due("day 99 and water 9", told(x, 'c', 99, 9), 20);
         for (char call : new char[] {'c', 'f', 'a'}) {
             refused("one byte", call, 0);
@@ -279,6 +284,7 @@ public final class SearchEdgesTest {
     private static void ask() {
         Check.says("so that the greatest part is the least (of several the least; none with fewer than two)");
         TurfBog x = new TurfBog();
+        Check.says("ASK (the TAPE as for FALLS); NONE.");
         Check.due("none fit", told(x, 'a', 5, 5, 5, 6), -1);
         Check.due("one fits", told(x, 'a', 0, 9, 9, 0), -1);
         Check.due("none told: all fit, 200 by each water of day 0", told(x, 'a'), 0);
